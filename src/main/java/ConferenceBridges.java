@@ -403,10 +403,7 @@ public final class ConferenceBridges {
             if (tree.size >= MOST_BRIDGES) {
                 return FULL;
             }
-            int bridge = tree.add(parent, places, phonesOnly);
-            arrived.clear(tree.wayInto(bridge, parent));
-            arrived.clear(tree.wayInto(parent, bridge));
-            return bridge;
+            return tree.add(parent, places, phonesOnly);
         }
 
         int admit(int bridge, int kind) {
@@ -422,9 +419,7 @@ public final class ConferenceBridges {
             if (tree.refuses(bridge, kind)) {
                 return WRONG_KIND;
             }
-            int participant = people.add(bridge, kind);
-            floor.forget(participant);
-            return participant;
+            return people.add(bridge, kind);
         }
 
         int dismiss(int participant) {
@@ -690,6 +685,12 @@ public final class ConferenceBridges {
         final int[] heard = new int[MOST_PEOPLE];
         final float[] mix = new float[MOST_PEOPLE];
 
+        People() {
+            for (int p = 0; p < MOST_PEOPLE; p++) {
+                speakerOf[p] = NONE;
+            }
+        }
+
         void copyFrom(People other) {
             joined = other.joined;
             present = other.present;
@@ -729,19 +730,14 @@ public final class ConferenceBridges {
             return speakers;
         }
 
-        /** The caller has seen that there is room. Every row is set: undo leaves old values behind. */
+        /**
+         * The caller has seen that there is room. A number is used once, and undo() brings back whole
+         * rows: so the others are still as the constructor made them, which is as they are at first.
+         */
         int add(int itsBridge, int itsKind) {
             int participant = joined;
             bridge[participant] = itsBridge;
             kind[participant] = itsKind;
-            level[participant] = 0;
-            muted[participant] = 0;
-            loudness[participant] = 0.0f;
-            quietTime[participant] = 0;
-            talkTime[participant] = 0;
-            speakerOf[participant] = NONE;
-            heard[participant] = 0;
-            mix[participant] = 0.0f;
             joined++;
             present++;
             return participant;
@@ -863,9 +859,7 @@ public final class ConferenceBridges {
         }
 
         void clear(int way) {
-            if (way != NONE) {
-                size[way] = 0;
-            }
+            size[way] = 0;
         }
 
         void add(int way, int itsSpeaker, int itsAge, float itsLoudness) {

@@ -587,6 +587,29 @@ public final class PromisesTest {
         x.tick(40);
         due("no limit", x.property(0, 7), 2);
 
+        // The limit 1: each tick the floor goes on, and its times begin at 0 for the one that gets it again.
+        ConferenceBridges y = withPhones(3);
+        y.setFloor(true, 1, 50, 1);
+        for (int tick = 1; tick <= 12; tick++) {
+            for (int p = 0; p < 3; p++) {
+                y.request(p, 5);
+            }
+            y.tick(1);
+            due("the floor in tick " + tick, y.property((tick - 1) % 3, 7), 2);
+        }
+        y = withPhones(2);
+        y.setFloor(true, 1, 50, 3);
+        y.request(0, 5);
+        y.tick(9);
+        y.giveUp(0);
+        y.request(0, 5);
+        y.tick(1);
+        y.request(1, 5);
+        y.tick(2);
+        due("holding for 2, the second time", y.property(0, 7), 2);
+        y.tick(1);
+        due("holding for 3, the second time", y.property(0, 7), 0);
+
         // While it is off, times stand still, holders stay, and everybody may speak.
         x.setFloor(false, 1, 1, 1);
         x.setLevel(1, 30);
@@ -724,6 +747,22 @@ public final class PromisesTest {
         due("talk time of 0", x.property(0, 5), 2);
         due("talk time of 2", x.property(2, 5), 2);
 
+        // A full house: 8 bridges, 20 participants, and everybody hears everybody else in the end.
+        x = new ConferenceBridges();
+        for (int b = 1; b < 8; b++) {
+            x.addBridge(b - 1, 4, false);
+        }
+        x.setSelection(4, 10, 6, 3);
+        for (int p = 0; p < 20; p++) {
+            x.join(p % 8, 0);
+            x.setLevel(p, p < 4 ? 30 + p : 0);
+        }
+        due("tick(20)", x.tick(20), 4);
+        for (int p = 0; p < 20; p++) {
+            due("how many " + p + " hears", x.property(p, 8), p < 4 ? 3 : 4);
+        }
+        due("digest()", x.digest(), digestOf(x));
+
         // Those that have left do not grow louder or quieter, and do not come back.
         x = withPhones(2);
         x.setLevel(0, 30);
@@ -768,6 +807,20 @@ public final class PromisesTest {
         x.setLevel(0, 11);
         due("threshold is back, floor is off", x.foretell(0, 9), 3);
 
+        undoBringsSettingsBack();
+
+        // A priority comes back: 1 is behind 0 again, and 2 between them.
+        x = withPhones(3);
+        x.request(0, 6);
+        x.request(1, 3);
+        x.giveUp(1);
+        x.request(1, 5);
+        x.undo();
+        x.undo();
+        x.request(2, 4);
+        due("waiting(1)", x.waiting(1), 2);
+        due("waiting(2)", x.waiting(2), 1);
+
         // Who hears whom, mixes, streams and requests come back too.
         x = withPhones(2);
         x.addBridge(0, 2, false);
@@ -786,6 +839,79 @@ public final class PromisesTest {
         due("mix", x.mixBits(1), bits(768.0f));
         due("stream", x.stream(1, 0, 0, 2), bits(768.0f));
         due("waiting", x.waiting(0), 1);
+    }
+
+    private static void undoBringsSettingsBack() {
+        // The hang of 3, after one of 20.
+        ConferenceBridges x = withPhones(1);
+        x.setSelection(1, 30, 6, 3);
+        x.setLevel(0, 33);
+        x.tick(1);
+        x.setSelection(1, 30, 6, 20);
+        x.undo();
+        x.setLevel(0, 0);
+        due("within the hang", x.tick(3), 1);
+        due("after the hang", x.tick(1), 0);
+
+        // The threshold of 512, after one of 1024.
+        x = withPhones(1);
+        x.setSelection(1, 27, 6, 3);
+        x.setLevel(0, 30);
+        x.setSelection(1, 30, 6, 3);
+        x.undo();
+        due("at the threshold", x.tick(1), 1);
+
+        // Against 512 half as much again is needed, not four times as much.
+        x = withPhones(2);
+        x.setSelection(1, 10, 6, 3);
+        x.setLevel(0, 30);
+        x.tick(1);
+        x.setLevel(1, 36);
+        x.setSelection(1, 10, 16, 3);
+        x.undo();
+        due("hysteresis", x.foretell(1, 9), 1);
+
+        // Two tokens, patience 2 and limit 3, after others.
+        x = withPhones(4);
+        x.setFloor(true, 2, 2, 3);
+        x.request(0, 5);
+        x.request(1, 5);
+        x.request(2, 5);
+        x.setLevel(0, 30);
+        x.setFloor(false, 4, 50, 100);
+        x.undo();
+        x.tick(1);
+        due("tokens", x.count(5), 2);
+        x.tick(2);
+        due("holders", x.property(0, 7) + x.property(1, 7), 4);
+        x.tick(1);
+        dueEvent(x, 3, 4, 0, 4);
+        dueEvent(x, 2, 3, 1, 4);
+        dueEvent(x, 1, 2, 2, 4);
+        dueEvent(x, 0, 5, 0, 4);
+
+        // The times of a holder: 2 of 3 ticks and silent in 2 before, and again after undo.
+        x = withPhones(2);
+        x.setFloor(true, 1, 50, 4);
+        x.request(0, 5);
+        x.tick(3);
+        x.request(1, 5);
+        x.tick(1);
+        x.undo();
+        x.tick(1);
+        due("holding for 3", x.property(0, 7), 2);
+        x.tick(1);
+        due("holding for 4", x.property(0, 7), 0);
+        x = withPhones(1);
+        x.setFloor(true, 1, 3, 0);
+        x.request(0, 5);
+        x.tick(3);
+        x.tick(1);
+        x.undo();
+        x.tick(1);
+        due("silent for 3", x.property(0, 7), 2);
+        x.tick(1);
+        due("silent for 4", x.property(0, 7), 0);
     }
 
     private static int undoable(ConferenceBridges x, int step) {
