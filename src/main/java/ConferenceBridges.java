@@ -651,15 +651,15 @@ public final class ConferenceBridges {
         }
 
         int linksBetween(int one, int other) {
-            int low = one;
-            int high = other;
+            int here = one;
+            int there = other;
             int links = 0;
             // A parent has a lower number, so the bridge with the higher one is never above the other.
-            while (low != high && links < MOST_BRIDGES) {
-                if (low > high) {
-                    low = parent[low];
+            while (here != there && links < MOST_BRIDGES) {
+                if (here > there) {
+                    here = parent[here];
                 } else {
-                    high = parent[high];
+                    there = parent[there];
                 }
                 links++;
             }
