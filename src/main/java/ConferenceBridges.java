@@ -858,8 +858,10 @@ public final class ConferenceBridges {
             System.arraycopy(other.loudness, 0, loudness, 0, Tree.WAYS * MOST_PLACES);
         }
 
-        void clear(int way) {
-            size[way] = 0;
+        void clear() {
+            for (int way = 0; way < Tree.WAYS; way++) {
+                size[way] = 0;
+            }
         }
 
         void add(int way, int itsSpeaker, int itsAge, float itsLoudness) {
@@ -1044,6 +1046,8 @@ public final class ConferenceBridges {
         }
 
         void send(Conference c) {
+            // On all ways: undo() may have taken away a bridge to which an earlier tick has sent.
+            sent.clear();
             for (int bridge = 0; bridge < c.tree.size; bridge++) {
                 for (int neighbour = 0; neighbour < c.tree.size; neighbour++) {
                     int way = c.tree.wayInto(neighbour, bridge);
@@ -1096,7 +1100,6 @@ public final class ConferenceBridges {
         }
 
         private void sendLoudest(int way, int places, int joined) {
-            sent.clear(way);
             for (int place = 0; place < places; place++) {
                 int loudest = NONE;
                 for (int p = 0; p < joined; p++) {

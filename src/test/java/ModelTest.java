@@ -715,8 +715,10 @@ public final class ModelTest {
             for (int i = 0; i < 8; i++) {
                 grow();
             }
-            while (calls < CALLS - 1 && wrong < 20) {
-                int way = dice.nextInt(100);
+            // Every third run goes back and forth much more than the others.
+            int undos = run % 3 == 0 ? 14 : 2;
+            while (calls < CALLS - 12 && wrong < 20) {
+                int way = dice.nextInt(98 + undos);
                 if (way < 8) {
                     grow();
                 } else if (way < 40) {
@@ -725,11 +727,25 @@ public final class ModelTest {
                     pass();
                 } else if (way < 66) {
                     write();
-                } else if (way < 68) {
-                    due("undo()", x.undo(), m.undo());
+                } else if (way < 66 + undos) {
+                    goBack();
                 } else {
                     look();
                 }
+            }
+            due("digest()", x.digest(), m.digest());
+        }
+
+        /** Undoes some calls, and then mostly grows or ticks where something was undone. */
+        void goBack() {
+            for (int more = 1 + dice.nextInt(6); more > 0; more--) {
+                due("undo()", x.undo(), m.undo());
+            }
+            if (dice.nextBoolean()) {
+                pass();
+            }
+            if (dice.nextBoolean()) {
+                grow();
             }
             due("digest()", x.digest(), m.digest());
         }

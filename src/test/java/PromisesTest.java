@@ -198,6 +198,28 @@ public final class PromisesTest {
         x.undo();
         x.addBridge(0, 1, false);
         due("no stream yet", x.stream(1, 0, 0, 0), NONE);
+
+        // Nor does it if there was a tick without it in between, in either direction.
+        x = withPhones(1);
+        x.addBridge(0, 4, false);
+        x.join(1, 0);
+        x.setLevel(1, 30);
+        x.setLevel(0, 30);
+        x.tick(1);
+        due("stream down", x.stream(1, 0, 0, 0), 0);
+        due("stream up", x.stream(0, 1, 0, 0), 1);
+        for (int left = 4; left >= 0; left--) {
+            due("undo()", x.undo(), left);
+        }
+        x.setLevel(0, 30);
+        due("a tick with bridge 0 alone", x.tick(1), 1);
+        due("the next one of its number", x.addBridge(0, 4, false), 1);
+        due("no stream down", x.stream(1, 0, 0, 0), NONE);
+        due("no stream up", x.stream(0, 1, 0, 0), NONE);
+        x.join(1, 0);
+        x.tick(1);
+        due("nothing is heard in the next tick", x.property(1, 8), 0);
+        due("nor at bridge 0", x.property(0, 8), 0);
     }
 
     private static void join() {
