@@ -404,6 +404,20 @@ public final class BoundaryFloorTest extends Boundaries {
         due("holding for 3", x.property(0, 7), 0);
     }
 
+    static void promise09_while_it_is_off_the_silent_time_stands_still() {
+        ConferenceBridges x = phones(1, 0);
+        x.setFloor(true, 1, 2, 0);
+        x.request(0, 0);
+        x.tick(2);
+        x.setFloor(false, 1, 2, 0);
+        x.tick(99);
+        x.setFloor(true, 1, 2, 0);
+        x.tick(1);
+        due("silent for 2", x.property(0, 7), 2);
+        x.tick(1);
+        due("silent for 3", x.property(0, 7), 0);
+    }
+
     static void promise09_while_it_is_on_only_holders_speak() {
         ConferenceBridges x = limited(0);
         due("tick(1)", x.tick(1), 1);
@@ -483,9 +497,9 @@ public final class BoundaryFloorTest extends Boundaries {
         due("request(1, 9)", x.request(1, 9), BAD_STATE);
     }
 
-    /** Participant 0 with the priority 3, participant 1 with 5; if the floor is on, 1 holds it. */
+    /** Participant 0 with the priority 3, participant 1 with 5, 2 without; if the floor is on, 1 holds it. */
     private static ConferenceBridges requestsOfTwo(boolean on) {
-        ConferenceBridges x = phones(2, 30);
+        ConferenceBridges x = phones(3, 30);
         x.setFloor(on, 1, 10, 4);
         x.request(0, 3);
         x.request(1, 5);

@@ -7,20 +7,6 @@ public final class BoundaryLookTest extends Boundaries {
         runCases(BoundaryLookTest.class, 18, 29);
     }
 
-    /** Bridge 0 with four bridges at it, four loud ones at each: all speak, and all streams meet at bridge 0. */
-    private static ConferenceBridges star(int level) {
-        ConferenceBridges x = fresh();
-        for (int bridge = 1; bridge < 5; bridge++) {
-            x.addBridge(0, 4, false);
-        }
-        x.setSelection(4, 10, 6, 3);
-        for (int p = 0; p < 20; p++) {
-            x.join(p % 5, 0);
-            x.setLevel(p, level);
-        }
-        return x;
-    }
-
     /** A call for which a participant is looked up, as its only argument that counts. */
     interface Look {
         long at(ConferenceBridges x, int participant);
@@ -93,6 +79,17 @@ public final class BoundaryLookTest extends Boundaries {
         x.tick(1);
         due("count(4)", x.count(4), 16);
         due("count(5)", x.count(5), 4);
+    }
+
+    static void promise18_the_first_and_the_last_number_as_holders() {
+        ConferenceBridges x = full();
+        x.setFloor(true, 2, 50, 0);
+        x.request(0, 0);
+        x.request(19, 0);
+        x.tick(1);
+        due("count(5)", x.count(5), 2);
+        x.giveUp(0);
+        due("count(5)", x.count(5), 1);
     }
 
     static void promise18_the_thirtieth_and_the_thirty_first_event() {
@@ -195,6 +192,16 @@ public final class BoundaryLookTest extends Boundaries {
         for (int p = 0; p < 20; p += 5) {
             due("property(" + p + ", 8)", x.property(p, 8), 19);
         }
+    }
+
+    static void promise19_one_that_has_left_counts_among_those_that_are_heard_until_the_next_tick() {
+        ConferenceBridges x = phones(3, 30);
+        x.tick(1);
+        x.leave(0);
+        due("property(2, 8)", x.property(2, 8), 2);
+        x.setLevel(2, 0);
+        x.tick(1);
+        due("property(2, 8)", x.property(2, 8), 1);
     }
 
     // ---- promise 20: loudnessBits

@@ -485,6 +485,18 @@ public final class BoundaryTextTest extends Boundaries {
         due("count(3)", x.count(3), 2475);
     }
 
+    /** An object is used for 512 calls: 2 to begin with, 100 for the text, 407 runs, and 3 to look. */
+    static void promise17_the_most_ticks_that_an_object_can_have() {
+        ConferenceBridges x = phones(1, 0);
+        write(x, "T99" + ";T99".repeat(24));
+        for (int run = 0; run < 407; run++) {
+            x.run();
+        }
+        due("count(3)", x.count(3), 407 * 2475);
+        due("quiet time", x.property(0, 6), 407 * 2475);
+        due("the 512th call", x.count(6), 0);
+    }
+
     static void promise17_the_hundredth_byte_belongs_to_the_last_order() {
         ConferenceBridges x = ordered("T" + " ".repeat(97) + "12");
         due("run()", x.run(), 1);

@@ -50,21 +50,7 @@ public final class BoundaryTimeTest extends Boundaries {
     }
 
     static void promise12_all_twenty_can_be_speakers() {
-        due("tick(1)", allSpeak().tick(1), 20);
-    }
-
-    /** Four at each of five bridges, which are all linked to bridge 0. */
-    private static ConferenceBridges allSpeak() {
-        ConferenceBridges x = fresh();
-        for (int bridge = 1; bridge < 5; bridge++) {
-            x.addBridge(0, 4, false);
-        }
-        x.setSelection(4, 10, 6, 3);
-        for (int p = 0; p < 20; p++) {
-            x.join(p % 5, 0);
-            x.setLevel(p, 60);
-        }
-        return x;
+        due("tick(1)", star(60).tick(1), 20);
     }
 
     // ---- step 1: loudness and quiet time
@@ -237,6 +223,23 @@ public final class BoundaryTimeTest extends Boundaries {
         due("both", x.property(2, 4) * 10 + x.property(3, 4), 11);
     }
 
+    static void promise12_step3d_is_done_at_each_bridge() {
+        ConferenceBridges x = line(2, 1);
+        x.setSelection(1, 10, 6, 3);
+        for (int p = 0; p < 4; p++) {
+            x.join(p % 2, 0);
+            x.setLevel(p, p < 2 ? 24 : 0);
+        }
+        x.tick(1);
+        x.setLevel(2, 60);
+        x.setLevel(3, 60);
+        due("tick(1)", x.tick(1), 2);
+        dueEvent(x, 3, 5, 0, 2);
+        dueEvent(x, 2, 1, 2, 2);
+        dueEvent(x, 1, 5, 1, 2);
+        dueEvent(x, 0, 1, 3, 2);
+    }
+
     static void promise12_step3d_with_room_nobody_is_dropped() {
         ConferenceBridges x = phones(2, 24);
         x.setLevel(1, 0);
@@ -322,7 +325,7 @@ public final class BoundaryTimeTest extends Boundaries {
     }
 
     static void promise12_step4_all_others_are_heard_where_all_streams_meet() {
-        ConferenceBridges x = allSpeak();
+        ConferenceBridges x = star(60);
         x.tick(40);
         x.tick(1);
         due("at bridge 0", x.property(0, 8), 19);
@@ -617,6 +620,121 @@ public final class BoundaryTimeTest extends Boundaries {
         undoable(Boundaries::holding, x -> x.setFloor(true, 1, 6, 9));
         undoable(Boundaries::holding, x -> x.setFloor(true, 2, 3, 9));
         undoable(Boundaries::holding, x -> x.setFloor(true, 2, 6, 7));
+    }
+
+    static void promise13_the_times_of_holders_are_brought_back() {
+        undoable(Boundaries::holding, x -> x.tick(1));
+        undoable(Boundaries::holding, x -> x.tick(5));
+    }
+
+    /** The priority 3 comes back, so that 4 is before it; with 5 it would not be. */
+    static void promise13_the_priority_of_a_request_is_brought_back() {
+        for (int p : new int[] {0, 19}) {
+            ConferenceBridges x = full();
+            x.request(p, 3);
+            x.giveUp(p);
+            x.request(p, 5);
+            x.undo();
+            x.undo();
+            x.request(1, 4);
+            due("waiting(0)", x.waiting(0), 1);
+            due("waiting(1)", x.waiting(1), p);
+        }
+    }
+
+    static void promise13_the_twentieth_participant_is_brought_back() {
+        Call[] calls = {x -> x.tick(1), x -> x.tick(99), x -> x.leave(19), x -> x.move(19, 7), x -> x.setLevel(19, 0),
+            x -> x.setMuted(19, true), x -> x.request(19, 9)};
+        for (Call call : calls) {
+            undoable(Boundaries::full, call);
+        }
+    }
+
+    static void promise13_the_twentieth_participant_gets_its_floor_back() {
+        Call[] calls = {x -> x.tick(1), x -> x.tick(99), x -> x.leave(19), x -> x.giveUp(19)};
+        for (Call call : calls) {
+            undoable(() -> theTwentiethHoldsTheFloor(6, 0), call);
+            undoable(() -> theTwentiethHoldsTheFloor(50, 6), call);
+        }
+    }
+
+    /** Nobody is as loud as the threshold: it will lose the floor by its silence, or by the limit. */
+    private static ConferenceBridges theTwentiethHoldsTheFloor(int patience, int limit) {
+        ConferenceBridges x = full();
+        x.setSelection(2, 60, 6, 3);
+        x.setFloor(true, 1, patience, limit);
+        x.request(19, 9);
+        x.tick(3);
+        for (int p = 0; p < 19; p++) {
+            x.request(p, 5);
+        }
+        return x;
+    }
+
+    static void promise13_twenty_requests_are_brought_back() {
+        Call[] calls = {x -> x.giveUp(19), x -> x.leave(0), x -> x.giveUp(7)};
+        for (Call call : calls) {
+            undoable(BoundaryTimeTest::allRequest, call);
+        }
+        ConferenceBridges x = allRequest();
+        x.giveUp(0);
+        x.request(0, 5);
+        due("waiting(19)", x.waiting(19), 0);
+        x.undo();
+        x.undo();
+        due("waiting(0)", x.waiting(0), 0);
+        due("waiting(19)", x.waiting(19), 19);
+    }
+
+    private static ConferenceBridges allRequest() {
+        ConferenceBridges x = full();
+        for (int p = 0; p < 20; p++) {
+            x.request(p, 5);
+        }
+        return x;
+    }
+
+    /** From the last bridge of the line the stream of 0; then 1 is loud, and takes the only place. */
+    static void promise13_the_ages_of_streams_are_brought_back() {
+        ConferenceBridges x = line(8, 1);
+        x.join(7, 0);
+        x.setLevel(0, 30);
+        x.join(4, 0);
+        x.tick(9);
+        x.setLevel(1, 60);
+        x.tick(1);
+        due("age", x.stream(3, 4, 0, 1), 1);
+        x.undo();
+        due("age", x.stream(3, 4, 0, 1), 4);
+    }
+
+    static void promise13_the_first_event_is_taken_back() {
+        ConferenceBridges x = phones(1, 30);
+        x.tick(1);
+        due("count(6)", x.count(6), 1);
+        x.undo();
+        due("count(6)", x.count(6), 0);
+        due("event(0, 0)", x.event(0, 0), BAD_INDEX);
+    }
+
+    /** At each place of the row an event of participant 0 comes back where one of participant 1 was. */
+    static void promise13_every_place_of_the_row_of_events_is_brought_back() {
+        for (int many = 30; many < 60; many++) {
+            int ticks = many;
+            undoable(() -> oneEventInEachTick(ticks), x -> x.tick(1));
+        }
+    }
+
+    /** Participant 1 is about to be the next one. */
+    private static ConferenceBridges oneEventInEachTick(int many) {
+        ConferenceBridges x = phones(2, 60);
+        x.setMuted(1, true);
+        for (int tick = 1; tick <= many; tick++) {
+            x.setMuted(0, tick % 2 == 0);
+            x.tick(1);
+        }
+        x.setMuted(1, false);
+        return x;
     }
 
     static void promise13_a_bridge_that_is_gone_leaves_no_streams_to_the_next_one() {

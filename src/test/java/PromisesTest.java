@@ -1191,8 +1191,8 @@ public final class PromisesTest {
                 due("level " + level + " rising", x.loudnessBits(0), bits(loud));
             }
             x.setLevel(0, 0);
-            for (int i = 0; i < 400; i++) {
-                int many = i < 20 ? 1 : 3;
+            for (int i = 0; i < 200; i++) {
+                int many = i < 20 ? 1 : 7;
                 x.tick(many);
                 for (int k = 0; k < many; k++) {
                     loud = loud + (0.0f - loud) * 0.125f;
@@ -1610,6 +1610,17 @@ public final class PromisesTest {
         }
         due("of a new object", x.digest(), hash);
 
+        for (int ticks = 1; ticks <= 12; ticks++) {
+            x = longAfter(ticks);
+            due("in tick " + (4 + ticks), x.digest(), digestOf(x));
+        }
+        long before = x.digest();
+        due("it changes nothing", x.digest(), before);
+    }
+
+    /** Four bridges and eleven participants with the floor on, and later off. */
+    private static ConferenceBridges longAfter(int ticks) {
+        ConferenceBridges x = new ConferenceBridges();
         x.addBridge(0, 4, false);
         x.addBridge(0, 2, true);
         x.addBridge(2, 3, false);
@@ -1623,15 +1634,13 @@ public final class PromisesTest {
         x.leave(4);
         x.setMuted(2, true);
         x.setFloor(true, 1, 50, 4);
-        for (int i = 0; i < 12; i++) {
-            x.tick(1);
-            due("in tick " + x.count(3), x.digest(), digestOf(x));
-            if (i == 5) {
+        for (int tick = 1; tick <= ticks; tick++) {
+            if (tick == 7) {
                 x.setFloor(false, 1, 50, 4);
             }
+            x.tick(1);
         }
-        long before = x.digest();
-        due("it changes nothing", x.digest(), before);
+        return x;
     }
 
     /** Through the other calls of the face. */
@@ -1640,7 +1649,8 @@ public final class PromisesTest {
         for (int what = 0; what <= 6; what++) {
             hash = 31 * hash + x.count(what);
         }
-        for (int p = 0; p < x.count(1); p++) {
+        int joined = x.count(1);
+        for (int p = 0; p < joined; p++) {
             if (x.property(p, 0) != BAD_INDEX) {
                 for (int what = 0; what <= 8; what++) {
                     hash = 31 * hash + x.property(p, what);
@@ -1649,10 +1659,13 @@ public final class PromisesTest {
                 hash = 31 * hash + x.mixBits(p);
             }
         }
-        for (int bridge = 0; bridge < x.count(0); bridge++) {
-            for (int neighbour = 0; neighbour < x.count(0); neighbour++) {
-                for (int i = 0; x.stream(bridge, neighbour, i, 0) >= 0; i++) {
-                    hash = 31 * hash + x.stream(bridge, neighbour, i, 0);
+        int bridges = x.count(0);
+        for (int bridge = 0; bridge < bridges; bridge++) {
+            for (int neighbour = 0; neighbour < bridges; neighbour++) {
+                int speaker = x.stream(bridge, neighbour, 0, 0);
+                for (int i = 1; speaker >= 0; i++) {
+                    hash = 31 * hash + speaker;
+                    speaker = x.stream(bridge, neighbour, i, 0);
                 }
             }
         }

@@ -74,7 +74,7 @@ abstract class Boundaries {
         due("tick of event " + event, x.event(event, 2), tick);
     }
 
-    /** That the call is refused with this code, and that nothing is changed by it: what there is, what comes, what undo() brings. */
+    /** That the call is refused with this code, and that nothing is changed by it. */
     static void refused(int code, Supplier<ConferenceBridges> world, Call call) {
         changesNothing(world, x -> {
             long answer = call.on(x);
@@ -87,6 +87,7 @@ abstract class Boundaries {
         dueSame("what there is", world, call, Boundaries::present);
         dueSame("who hears whom", world, call, Boundaries::heard);
         dueSame("the ticks that come", world, call, Boundaries::future);
+        dueSame("the requests that come", world, call, Boundaries::requests);
         dueSame("the history", world, call, Boundaries::past);
         dueSame("the text", world, call, Boundaries::text);
     }
@@ -151,6 +152,18 @@ abstract class Boundaries {
         hash = 31 * hash + x.setSelection(1, 1, 4, 0);
         hash = 31 * hash + x.setFloor(true, 1, 1, 0);
         return 31 * hash + x.join(0, 0);
+    }
+
+    /** Their order shows the priorities that there were before. */
+    private static long requests(ConferenceBridges x) {
+        long hash = 17;
+        for (int p = x.count(1) - 1; p >= 0; p--) {
+            hash = 31 * hash + x.request(p, 4);
+        }
+        for (int i = 0; i < x.count(4); i++) {
+            hash = 31 * hash + x.waiting(i);
+        }
+        return hash;
     }
 
     private static long past(ConferenceBridges x) {
@@ -242,22 +255,26 @@ abstract class Boundaries {
         return x;
     }
 
-    /** Two falling speakers, one that is louder than both, one below the threshold: every setting counts in what comes. */
+    /**
+     * At bridge 0 a speaker that falls, a louder one that comes, one near the threshold; at bridge 1 a
+     * speaker that falls silent: every setting of the selection counts in what comes.
+     */
     static ConferenceBridges talking() {
         ConferenceBridges x = phones(2, 24);
+        x.addBridge(0, 1, false);
+        x.join(1, 0);
+        x.setLevel(2, 24);
         x.setSelection(2, 12, 6, 3);
         x.tick(9);
         x.setLevel(0, 5);
-        x.join(0, 0);
-        x.setLevel(2, 26);
-        x.join(0, 0);
-        x.setLevel(3, 13);
-        x.join(0, 0);
-        x.setLevel(4, 11);
+        x.setLevel(2, 0);
+        for (int level : new int[] {26, 13, 11}) {
+            x.setLevel(x.join(0, 0), level);
+        }
         return x;
     }
 
-    /** One silent holder, one loud one near the limit, two requests: every setting counts in what comes. */
+    /** One silent holder, one loud one near the limit, two requests: every setting of the floor counts in what comes. */
     static ConferenceBridges holding() {
         ConferenceBridges x = phones(2, 30);
         x.join(0, 0);
@@ -268,6 +285,20 @@ abstract class Boundaries {
             x.request(p, 9 - p);
         }
         x.tick(4);
+        return x;
+    }
+
+    /** Bridge 0 and four bridges at it, with four of this level at each: if they speak, all streams meet at bridge 0. */
+    static ConferenceBridges star(int level) {
+        ConferenceBridges x = fresh();
+        for (int bridge = 1; bridge < 5; bridge++) {
+            x.addBridge(0, 4, false);
+        }
+        x.setSelection(4, 10, 6, 3);
+        for (int p = 0; p < 20; p++) {
+            x.join(p % 5, 0);
+            x.setLevel(p, level);
+        }
         return x;
     }
 
